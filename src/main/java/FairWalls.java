@@ -1008,7 +1008,7 @@ public final class FairWalls {
         private final int[] numbers = new int[NUMBERS];
         private int size;
         private int position;
-        private char letter;
+        private int letter;
 
         int size() {
             return size;
@@ -1028,7 +1028,7 @@ public final class FairWalls {
             return previous;
         }
 
-        char letter() {
+        int letter() {
             return letter;
         }
 
