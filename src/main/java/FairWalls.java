@@ -1,6 +1,6 @@
 import java.util.Arrays;
 
-/** An antique fair that lets its walls by the metre; ../shared/DOC.md says what it promises. */
+/** An antique fair that lets its walls by the metre; ../shared/DOC.md has the contract of each call, by promises. */
 public final class FairWalls {
     public static final int NONE = -1;
 
@@ -35,30 +35,25 @@ public final class FairWalls {
     private final FairText text = new FairText();
     private final int[] groups = new int[MAX_COMMANDS];
 
-    /** Creates a fair without walls and dealers. */
     public FairWalls() {
     }
 
     // ---- text
 
-    /** Appends a character to the text; answers the new length. */
     public int append(int c) throws IllegalArgumentException, IllegalStateException {
         needArgument(inRange(c, 0, MAX_SIGN));
         needState(text.size() < MAX_TEXT);
         return text.add((char) c);
     }
 
-    /** Empties the text; answers the previous length. */
     public int clearText() {
         return text.empty();
     }
 
-    /** Answers the error position of the text, NONE if it is a fair. */
     public int errorPosition() {
         return text.firstError();
     }
 
-    /** Makes everything anew from the text; answers the number of commands left out. */
     public int load() throws IllegalStateException {
         needState(text.firstError() == NONE);
         fair.startAnew();
@@ -76,7 +71,6 @@ public final class FairWalls {
 
     // ---- what there is
 
-    /** Answers a number of the whole fair. */
     public int about(int what) throws IllegalArgumentException {
         needArgument(inRange(what, 0, 13));
         State s = fair.state;
@@ -98,7 +92,6 @@ public final class FairWalls {
         }
     }
 
-    /** Answers a number of a wall. */
     public int wallOf(int w, int what) throws IndexOutOfBoundsException, IllegalArgumentException {
         needExists(fair.state.hasWall(w));
         needArgument(inRange(what, 0, 5));
@@ -112,7 +105,6 @@ public final class FairWalls {
         }
     }
 
-    /** Answers a number of a metre. */
     public int metreOf(int w, int m, int what) throws IndexOutOfBoundsException, IllegalArgumentException {
         needExists(fair.state.hasMetre(w, m));
         needArgument(inRange(what, 0, 2));
@@ -123,7 +115,6 @@ public final class FairWalls {
         }
     }
 
-    /** Answers a number of a dealer. */
     public int dealerOf(int d, int what) throws IndexOutOfBoundsException, IllegalArgumentException {
         State s = fair.state;
         needExists(s.hasDealer(d));
@@ -144,20 +135,17 @@ public final class FairWalls {
         }
     }
 
-    /** Answers the metre from which a dealer has a plug, NONE if there are not so many. */
     public int plugOf(int d, int k) throws IndexOutOfBoundsException, IllegalArgumentException {
         needExists(fair.state.hasDealer(d));
         needArgument(inRange(k, 0, MAX_WANTED - 1));
         return fair.power.metreOfPlug(d, k);
     }
 
-    /** Answers a setting. */
     public int setting(int what) throws IllegalArgumentException {
         needArgument(inRange(what, 0, SETTINGS - 1));
         return fair.state.settings[what];
     }
 
-    /** Answers how many metres of a wall are free, told in one of two ways. */
     public int free(int w, int way) throws IndexOutOfBoundsException, IllegalArgumentException {
         needExists(fair.state.hasWall(w));
         needArgument(inRange(way, 0, 1));
@@ -166,7 +154,6 @@ public final class FairWalls {
 
     // ---- actions
 
-    /** Adds a wall; answers its number. */
     public int wall(int length) throws IllegalArgumentException, IllegalStateException {
         needArgument(Fair.isLength(length));
         needState(fair.state.walls < MAX_WALLS);
@@ -174,7 +161,6 @@ public final class FairWalls {
         return fair.openWall(length);
     }
 
-    /** Changes the plugs of a metre; answers the previous ones. */
     public int outlet(int w, int m, int plugs) throws IndexOutOfBoundsException, IllegalArgumentException {
         needExists(fair.state.hasMetre(w, m));
         needArgument(inRange(plugs, 0, MAX_PLUGS));
@@ -182,7 +168,6 @@ public final class FairWalls {
         return fair.putPlugs(w, m, plugs);
     }
 
-    /** Adds a dealer, who stands nowhere; answers the number. */
     public int dealer(int goods, int frontage, int plugs) throws IllegalArgumentException, IllegalStateException {
         needArgument(Fair.isDealer(goods, frontage, plugs));
         needState(fair.state.dealers < MAX_DEALERS);
@@ -190,14 +175,12 @@ public final class FairWalls {
         return fair.admit(goods, frontage, plugs);
     }
 
-    /** Lets a dealer stand at a wall; answers 0, or the reason why not. */
     public int place(int d, int w, int m) throws IndexOutOfBoundsException {
         needExists(fair.state.hasDealer(d) && fair.state.hasMetre(w, m));
         past.remember(fair.state);
         return fair.countRefusal(fair.letStand(d, w, m));
     }
 
-    /** Lets a dealer leave the place; answers what the dealer owes. */
     public int leave(int d) throws IndexOutOfBoundsException, IllegalStateException {
         needExists(fair.state.hasDealer(d));
         needState(fair.state.stands(d));
@@ -205,7 +188,6 @@ public final class FairWalls {
         return fair.sendAway(d);
     }
 
-    /** Lets two dealers swap; answers 0, or the reason why not. */
     public int swap(int d, int e) throws IndexOutOfBoundsException, IllegalArgumentException {
         needExists(fair.state.hasDealer(d) && fair.state.hasDealer(e));
         needArgument(d != e);
@@ -213,21 +195,18 @@ public final class FairWalls {
         return fair.countRefusal(fair.exchange(d, e));
     }
 
-    /** Lets days go by; answers the rents owed by them. */
     public int days(int n) throws IllegalArgumentException {
         needArgument(inRange(n, 1, MAX_DAYS));
         past.remember(fair.state);
         return fair.passDays(n);
     }
 
-    /** Changes a setting; answers the previous value. */
     public int set(int what, int v) throws IllegalArgumentException {
         needArgument(Fair.isSetting(what, v));
         past.remember(fair.state);
         return fair.changeSetting(what, v);
     }
 
-    /** Takes back the last remembered action; answers how many states are still remembered. */
     public int undo() throws IllegalStateException {
         needState(past.count() > 0);
         fair.become(past.takeLast());
@@ -236,14 +215,12 @@ public final class FairWalls {
 
     // ---- what would be
 
-    /** Answers the rent that a dealer would have at a place, NONE if the dealer would not fit. */
     public int rentIf(int d, int w, int m) throws IndexOutOfBoundsException {
         needExists(fair.state.hasDealer(d) && fair.state.hasMetre(w, m));
         trial.become(fair.state);
         return trial.rentMovedTo(d, w, m);
     }
 
-    /** Answers the cheapest place for a dealer, or its rent; NONE if the dealer would fit nowhere. */
     public int cheapest(int d, int what) throws IndexOutOfBoundsException, IllegalArgumentException {
         needExists(fair.state.hasDealer(d));
         needArgument(inRange(what, 0, 1));
@@ -262,7 +239,6 @@ public final class FairWalls {
         return what == 0 ? place : least;
     }
 
-    /** Answers the swap by which the fair gains most, or the rents behind it; NONE if there is none. */
     public int bestSwap(int what) throws IllegalArgumentException {
         needArgument(inRange(what, 0, 1));
         int best = NONE;
@@ -279,7 +255,6 @@ public final class FairWalls {
         return what == 0 || best == NONE ? best : most;
     }
 
-    /** Answers the reason why two dealers cannot swap, 0 if they can. */
     public int why(int d, int e) throws IndexOutOfBoundsException, IllegalArgumentException {
         needExists(fair.state.hasDealer(d) && fair.state.hasDealer(e));
         needArgument(d != e);
@@ -288,7 +263,6 @@ public final class FairWalls {
 
     // ---- scripts, simulations
 
-    /** Runs a script on a copy; answers the index of the first command that fails, NONE if all succeed. */
     public int runScript(int n, long script) throws IllegalArgumentException {
         needArgument(inRange(n, 1, MAX_COMMANDS) && script >= 0);
         needArgument(splitScript(n, script) == 0);
@@ -301,7 +275,6 @@ public final class FairWalls {
         return NONE;
     }
 
-    /** Simulates turns on a copy; answers its rents, standing dealers and walls in one number. */
     public int simulate(long seed, int m) throws IllegalArgumentException {
         needArgument(inRange(m, 1, MAX_TURNS));
         trial.become(fair.state);
@@ -315,14 +288,12 @@ public final class FairWalls {
 
     // ---- save slots
 
-    /** Stores the state in a save slot; answers the day. */
     public int save(int slot) throws IndexOutOfBoundsException {
         needExists(inRange(slot, 0, MAX_SLOTS - 1));
         slots.keep(slot, fair.state);
         return fair.state.day;
     }
 
-    /** Replaces the state by the one in a save slot; answers the day then. */
     public int restore(int slot) throws IndexOutOfBoundsException, IllegalStateException {
         needExists(inRange(slot, 0, MAX_SLOTS - 1));
         needState(slots.isFilled(slot));
@@ -634,6 +605,7 @@ public final class FairWalls {
             if (!inRange(n, 1, MAX_DAYS)) {
                 return NONE;
             }
+            // nothing that a rent depends on changes with the days, so one day stands for all
             int together = 0;
             for (int d = 0; d < state.dealers && d < MAX_DEALERS; d++) {
                 int rent = n * rentOf(d);
@@ -655,6 +627,7 @@ public final class FairWalls {
             return previous;
         }
 
+        /** Apart from letStand() and exchange(), since what a text refuses counts nowhere. */
         int countRefusal(int reason) {
             if (reason != 0) {
                 state.refused++;
@@ -791,6 +764,7 @@ public final class FairWalls {
             for (int d = 0; d < state.dealers; d++) {
                 sum += rivals(d);
             }
+            // each pair was met from both sides
             return sum / 2;
         }
 

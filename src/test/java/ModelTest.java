@@ -360,7 +360,8 @@ public final class ModelTest {
             exists(isDealer(d));
             exists(isMetre(w, m));
             action();
-            int reason = dealers.get(d)[3] >= 0 ? 1 : !isMetre(w, m + dealers.get(d)[1] - 1) ? 2 : fits(d, w, m) ? 0 : 3;
+            int last = m + dealers.get(d)[1] - 1;
+            int reason = dealers.get(d)[3] >= 0 ? 1 : !isMetre(w, last) ? 2 : fits(d, w, m) ? 0 : 3;
             if (reason == 0) {
                 put(d, w, m);
             } else {
@@ -711,7 +712,9 @@ public final class ModelTest {
                     break;
                 }
                 case 4:
-                case 5: same("dealerOf(" + a + "," + what + ")", () -> x.dealerOf(a, what), () -> y.dealerOf(a, what)); break;
+                case 5:
+                    same("dealerOf(" + a + "," + what + ")", () -> x.dealerOf(a, what), () -> y.dealerOf(a, what));
+                    break;
                 case 6: {
                     int k = near(2);
                     same("plugOf(" + a + "," + k + ")", () -> x.plugOf(a, k), () -> y.plugOf(a, k));
@@ -727,7 +730,9 @@ public final class ModelTest {
                     same("free(" + w + "," + k + ")", () -> x.free(w, k), () -> y.free(w, k));
                     break;
                 }
-                case 9: same("rentIf(" + a + "," + w + "," + m + ")", () -> x.rentIf(a, w, m), () -> y.rentIf(a, w, m)); break;
+                case 9:
+                    same("rentIf(" + a + "," + w + "," + m + ")", () -> x.rentIf(a, w, m), () -> y.rentIf(a, w, m));
+                    break;
                 case 10: {
                     int k = near(1);
                     same("cheapest(" + a + "," + k + ")", () -> x.cheapest(a, k), () -> y.cheapest(a, k));
@@ -750,7 +755,8 @@ public final class ModelTest {
                 case 1: {
                     int n = near(2) + 1;
                     long script = someScript(n);
-                    same("runScript(" + n + "," + script + ")", () -> x.runScript(n, script), () -> y.runScript(n, script));
+                    same("runScript(" + n + "," + script + ")", () -> x.runScript(n, script),
+                            () -> y.runScript(n, script));
                     break;
                 }
                 case 2: {

@@ -75,6 +75,8 @@ public final class ScriptTest {
         succeeds(x, 60094);
         succeeds(x, 61050);
         fails(x, 60095, 60101, 61061, 62000);
+        succeeds(Due.fair("Aw12"), 60114);
+        fails(Due.fair("Aw12"), 60120);
         // rents: 0 has one plug of two: 18 + 5 + 3 - 4
         succeeds(x, 70022);
         fails(x, 70021);

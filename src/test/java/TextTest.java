@@ -112,6 +112,14 @@ public final class TextTest {
             full.append("l0");
         }
         error(full + "l", 120);
+        FairWalls x = new FairWalls();
+        Due.write(x, "Aw04w05");
+        Due.write(x, "Aw04w");
+        Due.is("a shorter text over a longer one", x.errorPosition(), 5);
+        Due.write(x, "Aw0");
+        Due.is("a still shorter one", x.errorPosition(), 3);
+        Due.write(x, "");
+        Due.is("none over a longer one", x.errorPosition(), 0);
         error(full.substring(0, 117) + "w04", -1);
     }
 
@@ -131,7 +139,9 @@ public final class TextTest {
         Due.is("load: setting", x.setting(0), 9);
         Due.is("load: owed", x.dealerOf(0, 8), 2 * (29 - 7));
         Due.is("load: text kept", x.clearText(), 39);
-        FairWalls y = Due.fair("Aw10d010d010p0000p1005s01s10l1");
+        FairWalls y = new FairWalls();
+        Due.write(y, "Aw10d010d010p0000p1005s01s10l1");
+        Due.is("no command is left out", y.load(), 0);
         Due.is("text swaps", y.dealerOf(0, 4), 0);
         Due.is("text leaves", y.dealerOf(1, 3), FairWalls.NONE);
         Due.is("text counts swaps", y.about(11), 2);
@@ -166,8 +176,20 @@ public final class TextTest {
         x.save(1);
         x.place(x.dealer(0, 9, 0), 0, 0);
         Due.is("a refusal", x.about(12), 1);
+        x.outlet(0, 0, 1);
+        x.place(x.dealer(0, 1, 1), 0, 0);
+        x.days(3);
+        x.dealer(0, 1, 0);
+        x.place(2, 0, 1);
+        x.swap(1, 2);
+        Due.is("a day", x.about(10), 3);
+        Due.is("a swap", x.about(11), 1);
         Due.write(x, "Aw04");
         Due.is("load() left out", x.load(), 0);
+        Due.is("day behind load", x.about(10), 0);
+        Due.is("swaps behind load", x.about(11), 0);
+        Due.is("plugs behind load", x.metreOf(0, 0, 0), 0);
+        Due.is("plugs taken behind load", x.metreOf(0, 0, 1), 0);
         Due.noState("undo behind load", x::undo);
         Due.noState("restore(0) behind load", () -> x.restore(0));
         Due.noState("restore(1) behind load", () -> x.restore(1));
