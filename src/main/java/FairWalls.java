@@ -917,13 +917,14 @@ public final class FairWalls {
         }
 
         void remember(State s) {
-            states[next].copy(s);
-            next = (next + 1) % MAX_REMEMBERED;
+            int row = Math.floorMod(next, MAX_REMEMBERED);
+            states[row].copy(s);
+            next = row + 1;
             count = Math.min(count + 1, MAX_REMEMBERED);
         }
 
         State takeLast() {
-            next = (next + MAX_REMEMBERED - 1) % MAX_REMEMBERED;
+            next = Math.floorMod(next - 1, MAX_REMEMBERED);
             count = Math.max(count - 1, 0);
             return states[next];
         }
