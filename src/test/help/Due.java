@@ -1,8 +1,17 @@
 /** Counts and prints the answers that are not the ones that are due. */
 public final class Due {
+    public static final String NO_SUCH = "IndexOutOfBoundsException";
+    public static final String NO_ARGUMENT = "IllegalArgumentException";
+    public static final String NO_STATE = "IllegalStateException";
+
     /** A call that may throw. */
     public interface Call {
         int answer();
+    }
+
+    /** A call of an object that is yet to be made. */
+    public interface CallOf {
+        int answer(FairWalls x);
     }
 
     private static int wrong = 0;
@@ -17,32 +26,41 @@ public final class Due {
         }
     }
 
+    public static void same(String what, String got, String want) {
+        if (!got.equals(want)) {
+            wrong++;
+            System.out.println(what + " told " + got + ", due is " + want);
+        }
+    }
+
     /** IndexOutOfBoundsException is due. */
     public static void noSuch(String what, Call call) {
-        thrown(what, call, "IndexOutOfBoundsException");
+        thrown(what, call, NO_SUCH);
     }
 
     /** IllegalArgumentException is due. */
     public static void noArgument(String what, Call call) {
-        thrown(what, call, "IllegalArgumentException");
+        thrown(what, call, NO_ARGUMENT);
     }
 
     /** IllegalStateException is due. */
     public static void noState(String what, Call call) {
-        thrown(what, call, "IllegalStateException");
+        thrown(what, call, NO_STATE);
     }
 
-    // the very class counts: the machine's own exceptions are often subclasses of the due ones
     private static void thrown(String what, Call call, String want) {
-        String got = "nothing";
+        same(what, told(call), want);
+    }
+
+    /**
+     * The answer, or the name of what is thrown. The very class counts: the machine's own exceptions are often
+     * subclasses of the due ones.
+     */
+    public static String told(Call call) {
         try {
-            call.answer();
+            return Integer.toString(call.answer());
         } catch (RuntimeException e) {
-            got = e.getClass().getSimpleName();
-        }
-        if (!got.equals(want)) {
-            wrong++;
-            System.out.println(what + " threw " + got + ", due is " + want);
+            return e.getClass().getSimpleName();
         }
     }
 
