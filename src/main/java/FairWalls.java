@@ -213,7 +213,7 @@ public final class FairWalls {
         return past.count();
     }
 
-    // ---- what would be
+    // ---- what would be; these and all following methods up to the save slots change nothing
 
     public int rentIf(int d, int w, int m) throws IndexOutOfBoundsException {
         needExists(fair.state.hasDealer(d) && fair.state.hasMetre(w, m));
@@ -930,7 +930,7 @@ public final class FairWalls {
         }
     }
 
-    /** The save slots. */
+    /** Apart from what is remembered, since undo() and restore() leave the slots as they are. */
     private static final class Slots {
         private final State[] states = new State[MAX_SLOTS];
         private final boolean[] filled = new boolean[MAX_SLOTS];
